@@ -1133,43 +1133,30 @@ public final class DowrySteps {
             return true;
         }
 
-        private int byteAt(int i) {
-            return i >= 0 && i < length && i < text.length ? text[i] & 255 : -1;
-        }
-
-        private static boolean isLetter(int sign) {
-            return sign >= 'a' && sign <= 'z';
-        }
-
-        private static boolean isDigit(int sign) {
-            return sign >= '0' && sign <= '9';
-        }
-
         private void nextToken() {
-            for (int i = 0; i < MAX_TAPE && (byteAt(behind) == 32 || byteAt(behind) == 10); i++) {
-                behind++;
-            }
             start = behind;
+            while (start < length && (text[start] == 32 || text[start] == 10)) {
+                start++;
+            }
+            behind = start;
             value = 0;
-            int sign = byteAt(behind);
-            if (sign < 0) {
+            if (start >= length) {
                 kind = KIND_END;
-            } else if (isLetter(sign)) {
+                return;
+            }
+            kind = text[start] == ';' ? KIND_SEMICOLON : KIND_OTHER;
+            while (behind < length && text[behind] >= 'a' && text[behind] <= 'z') {
                 kind = KIND_WORD;
-                for (int i = 0; i < MAX_TAPE && isLetter(byteAt(behind)); i++) {
-                    behind++;
-                }
-            } else if (isDigit(sign)) {
-                kind = KIND_NUMBER;
-                for (int i = 0; i < MAX_TAPE && isDigit(byteAt(behind)); i++) {
-                    // above every bound it matters no more how far
-                    value = Math.min(value * 10 + byteAt(behind) - '0', FAR);
-                    behind++;
-                }
-            } else {
-                kind = sign == ';' ? KIND_SEMICOLON : KIND_OTHER;
                 behind++;
             }
+            while (kind != KIND_WORD && behind < length && text[behind] >= '0' && text[behind] <= '9') {
+                kind = KIND_NUMBER;
+                // above every bound it matters no more how far
+                value = Math.min(value * 10 + text[behind] - '0', FAR);
+                behind++;
+            }
+            // a sign, or a byte that is no token, has no length of its own yet
+            behind = Math.max(behind, start + 1);
         }
 
         private boolean isWord(String word) {
@@ -1177,7 +1164,7 @@ public final class DowrySteps {
                 return false;
             }
             for (int i = 0; i < word.length(); i++) {
-                if (byteAt(start + i) != word.charAt(i)) {
+                if (text[start + i] != word.charAt(i)) {
                     return false;
                 }
             }

@@ -30,6 +30,7 @@ public final class OracleTest {
             compareAsItIs();
             for (int again = 0; again < 2; again++) {
                 courtAnew();
+                leaveAndComeBack();
                 compareAsItIs();
                 comparePaths();
                 compareWalkers();
@@ -150,6 +151,29 @@ public final class OracleTest {
                 }
             }
         }
+    }
+
+    /** Promises 51 and 52: of the other mountain nothing is left. */
+    private static void leaveAndComeBack() {
+        int k = dice(3);
+        due("image(" + k + ")", x.image(k), 0);
+        StringBuilder other = new StringBuilder("mountain places 8 years 30;");
+        for (int i = 0; i < 10; i++) {
+            other.append("path ").append(i % 8).append(" to ").append((i + 1 + i / 8) % 8).append(';');
+        }
+        for (int i = 0; i < 8; i++) {
+            other.append("height ").append(i).append(i < 4 ? " 77;bride path 9 in 29;" : " 77;");
+        }
+        for (int i = 0; i < 7; i++) {
+            other.append("suitor skill 27 spite 78 for 3;court ").append(i).append(" 3;");
+        }
+        for (int i = 0; i < 4; i++) {
+            other.append("walker leap 77 at 7;rain ").append(i).append(" is 55;");
+        }
+        int lines = Checks.tell(x, other.toString());
+        due("mountain() of the other", lines > 0 ? 1 : 0, 1);
+        due("hearts() of the other", x.hearts(), 6);
+        due("back(" + k + ")", x.back(k), 0);
     }
 
     /** Promises 6 to 10, 44 to 47, 50. */

@@ -169,6 +169,11 @@ public final class PromisesTest {
         dueFault(b + "suitor skill 3 spite 10 for 1 1;", 2, k + 30);
         dueFault(b + "suitor skill 3 spite 10 for 1 0 1;", 2, k + 32);
         dueFault(b + "suitor skill 3 spite 10 for 1 0 2;", 2, k + 32);
+        String four = b + "bride path 0 in 0;bride path 0 in 1;suitor skill 3 spite 10 for 3 1 2 0";
+        due("a suitor for four", Checks.told(four + ";").suitor(0, 2), 15);
+        dueFault(four + " 2;", 2, four.length() + 1);
+        dueFault(four + " 4;", 2, four.length() + 1);
+        dueFault(four + " for", 1, four.length() + 1);
         dueFault(b + "suitor skill 3 spite 10 for 1; court 0 0;", 2, k + 39);
         dueFault(b + "suitor skill 3 spite 10 for 1; court 1 1;", 2, k + 37);
         dueFault(b + "suitor skill 3 spite 10 for 1; court 0 2;", 2, k + 39);

@@ -149,6 +149,9 @@ public final class PromisesTest {
         dueFault("mountain places 3 years 2;\tpath", 1, 26);
         dueFault(m + m, 1, n);
         dueFault(m + "mount places", 1, n);
+        dueFault(m + "math 0 to 1;", 1, n);
+        dueFault(m + "patt 0 to 1;", 1, n);
+        dueFault(m + "pith 0 to 1;", 1, n);
         dueFault(m + "height 3 1;", 2, n + 7);
         dueFault(m + "height 2 100;", 2, n + 9);
         dueFault(m + "height 2;", 1, n + 8);
@@ -193,6 +196,26 @@ public final class PromisesTest {
         due("seven suitors", Checks.told(b + s + s + s + s + s + s + s).count(4), 7);
         tellTenPaths();
         tellNumbers();
+        tellOthers();
+    }
+
+    /** What was told of other mountains, or ahead of a fault, is not there without being told. */
+    private static void tellOthers() {
+        String full = "mountain places 2 years 2;height 0 9;height 1 7;path 0 to 1;bride path 0 in 0;suitor skill 1 spite 0 for 0;"
+            + "rain 0 is 50;rain 1 is 60;walker leap 0 at 1;court 0 0;";
+        DowrySteps x = new DowrySteps();
+        for (int i = 0; i < 3; i++) {
+            due("tell the full one", Checks.tell(x, full), 10);
+            due("tell it with a fault", Checks.tell(x, full + "rain 2 is 1;"), -4);
+            due("safe(0, 1, 1)", x.safe(0, 1, 1), 5);
+            due("tell a bare one", Checks.tell(x, "mountain places 3 years 3;path 0 to 1;path 1 to 2;bride path 0 in 0;"
+                + "suitor skill 2 spite 0 for 0;"), 5);
+            due("path(0, 2) without heights", x.path(0, 2), 0);
+            due("suitor(0, 3) without a court", x.suitor(0, 3), NONE);
+            due("court", x.court(0, 0), NONE);
+            due("safe(0, 1, 1) without rain", x.safe(0, 1, 1), 1);
+            due("reach(0, 0) without walkers", x.reach(0, 0), -2);
+        }
     }
 
     private static void tellTenPaths() {
@@ -422,6 +445,8 @@ public final class PromisesTest {
         due("safest(1, 0, 0, 2)", y.safest(1, 0, 0, 2), 1);
         due("safest(1, 0, 0, 1)", y.safest(1, 0, 0, 1), 1);
         due("safest(2, 1, 0, 0)", y.safest(2, 1, 0, 0), NONE);
+        due("safest(2, 1, 0, 1)", y.safest(2, 1, 0, 1), NONE);
+        due("safest(2, 1, 0, 2)", y.safest(2, 1, 0, 2), NONE);
         due("safest(2, 1, 0, 3)", y.safest(2, 1, 0, 3), -2);
         due("safest(2, 1, 0, -1)", y.safest(2, 1, 0, -1), -2);
         due("safest(3, 1, 0, 0)", y.safest(3, 1, 0, 0), -2);

@@ -118,9 +118,26 @@ public final class PromisesTest {
         due("count(7) behind a fault", x.count(7), 0);
         due("hearts() stays", x.hearts(), 0);
         due("tell nothing", Checks.tell(x, ""), 0);
-        due("hearts() without", x.hearts(), -2);
-        due("count(0) without", x.count(0), 0);
         due("fault(0) of nothing", x.fault(0), 0);
+        nothingIsThere(x);
+        due("tell much", Checks.tell(x, HILL), 19);
+        due("tell blanks", Checks.tell(x, " \n "), 0);
+        nothingIsThere(x);
+    }
+
+    private static void nothingIsThere(DowrySteps x) {
+        due("hearts() without", x.hearts(), -2);
+        due("peace() without", x.peace(), -2);
+        due("peaces(0) without", x.peaces(0), -2);
+        due("parts(0, 5) without", x.parts(0, 5), -2);
+        due("need(0, 0, 0) without", x.need(0, 0, 0), -2);
+        due("all(0, 0) without", x.all(0, 0), -2);
+        due("suitor(0, 0) without", x.suitor(0, 0), -2);
+        due("bride(0, 0) without", x.bride(0, 0), -2);
+        due("path(0, 0) without", x.path(0, 0), -2);
+        for (int what = 0; what <= 9; what++) {
+            due("count(" + what + ") without", x.count(what), 0);
+        }
     }
 
     private static void dueFault(String text, int fault, int place) {
@@ -694,6 +711,9 @@ public final class PromisesTest {
         x.row(1, 0, 60);
         x.row(1, 1, 2);
         due("count(9)", x.count(9), 2);
+        x.row(0, 3, 1);
+        x.row(2, 3, 1);
+        due("count(9)", x.count(9), 4);
         x.court(2, 1);
         x.court(0, NONE);
         due("count(8)", x.count(8), 6);

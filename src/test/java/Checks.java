@@ -2,8 +2,18 @@
 final class Checks {
     private static int asked = 0;
     private static int wrong = 0;
+    /** What the answers belong to, told ahead of each that is wrong. */
+    private static String about = "";
 
     private Checks() {
+    }
+
+    static void tellAbout(String what) {
+        about = what;
+    }
+
+    static int askedSoFar() {
+        return asked;
     }
 
     static void due(String call, long got, long want) {
@@ -11,7 +21,7 @@ final class Checks {
         if (got != want) {
             wrong++;
             if (wrong <= 40) {
-                System.out.println(call + " answered " + got + ", due is " + want);
+                System.out.println(about + call + " answered " + got + ", due is " + want);
             }
         }
     }
@@ -53,6 +63,28 @@ final class Checks {
             due("mountain() of " + text + " (fault " + x.fault(0) + " at " + x.fault(1) + ")", lines, 0);
         }
         return x;
+    }
+
+    /** A text without a fault: as many lines as it has signs ; are told. */
+    static DowrySteps fine(String text) {
+        DowrySteps x = new DowrySteps();
+        due("mountain() of " + text, tell(x, text), text.chars().filter(c -> c == ';').count());
+        due("fault(0) of " + text, x.fault(0), 0);
+        due("fault(1) of " + text, x.fault(1), -1);
+        return x;
+    }
+
+    /** A text whose first fault is where the sign ^ stands, which is no part of it. */
+    static void faulty(String marked, int fault) {
+        int place = marked.indexOf('^');
+        faultyAt(marked.substring(0, place) + marked.substring(place + 1), fault, place);
+    }
+
+    static void faultyAt(String text, int fault, int place) {
+        DowrySteps x = new DowrySteps();
+        due("mountain() of " + text, tell(x, text), -4);
+        due("fault(0) of " + text, x.fault(0), fault);
+        due("fault(1) of " + text, x.fault(1), place);
     }
 
     /** Makes a slot's row of these numbers. */

@@ -255,6 +255,8 @@ public final class PathEdgesTest {
         due("dry(0), always safe", x.dry(0), 0);
         due("dry(1), safe ahead of the steps", x.dry(1), 0);
         due("dry(3), not the first year", x.dry(3), 1);
+        DowrySteps sure = Checks.told("mountain places 2 years 3;path 0 to 1;bride path 0 in 0;suitor skill 0 spite 0 for 0;court 0 0;");
+        due("a step that is never missed is as safe as none", sure.dry(0), 0);
         DowrySteps y = Checks.told("mountain places 2 years 5;path 0 to 1;bride path 0 in 0;suitor skill 30 spite 0 for 0;court 0 0;rain 0 is 100;"
             + "rain 1 is 2;rain 2 is 1;rain 3 is 1;rain 4 is 2;");
         due("the first of two alike", y.dry(0), 2);

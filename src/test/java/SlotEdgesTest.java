@@ -31,6 +31,7 @@ public final class SlotEdgesTest {
 
     private static void measured() {
         Sentences.ofPromise(40, "MEASURED (V): how many COURTINGS AGREE", SlotEdgesTest::agreeNoneAndAll);
+        Sentences.ofPromise(40, "MEASURED (V): how many COURTINGS AGREE", SlotEdgesTest::agreeByEachOfTwenty);
         Sentences.ofPromise(40, "a number is no PATH, no YEAR (asked last), not three each", () -> notMeasured((x, slot) -> x.agree(slot)));
         Sentences.ofPromise(40, "-2: there is no such SLOT, no MOUNTAIN", () -> noSlotNoMountain((x, slot) -> x.agree(slot)));
         Sentences.ofPromise(40, "-6: it has nothing", () -> nothingThere((x, slot) -> x.agree(slot)));
@@ -100,6 +101,41 @@ public final class SlotEdgesTest {
         DowrySteps none = Checks.told("mountain places 2 years 1;path 0 to 1;");
         Checks.putRow(none, 0, 0, 0, 0, 0);
         due("without suitors there is one", none.agree(0), 1);
+    }
+
+    /** Twenty measures, each in its turn the one that a step makes so; and seven steps by each of twenty. */
+    private static void agreeByEachOfTwenty() {
+        DowrySteps x = hill();
+        for (int i = 0; i < 20; i++) {
+            x.row(0, 0, 60);
+            for (int k = 0; k < 20; k++) {
+                x.write(0, 3 * k, k == i ? 6 : 1);
+                x.write(0, 3 * k + 1, 1);
+                x.write(0, 3 * k + 2, k == i ? 4 : 2);
+            }
+            due("one step by measure " + i, x.agree(0), 3);
+            x.write(0, 3 * i + 2, 3);
+            due("two steps by measure " + i, x.agree(0), 1);
+            x.write(0, 3 * i + 2, 7);
+            due("no step by measure " + i, x.agree(0), 2);
+        }
+        StringBuilder text = new StringBuilder("mountain places 2 years 1;height 1 99;path 0 to 1;bride path 0 in 0;");
+        for (int s = 0; s < 7; s++) {
+            text.append("suitor skill 0 spite 0 for 0;");
+        }
+        DowrySteps seven = Checks.told(text.toString());
+        seven.row(0, 0, 60);
+        int[] leaps = {99, 50, 33, 25, 20, 17, 15, 13};
+        int[] courtings = {1, 7, 21, 35, 35, 21, 7, 1};
+        for (int steps = 0; steps <= 7; steps++) {
+            for (int k = 0; k < 20; k++) {
+                seven.write(0, 3 * k + 2, leaps[steps]);
+            }
+            due(steps + " steps by each of twenty", seven.agree(0), courtings[steps]);
+            due("the fewest hearts", seven.kindly(0), Math.max(steps - 1, 0));
+            seven.write(0, 59, leaps[(steps + 1) % 8]);
+            due(steps + " steps by each but the last", seven.agree(0), 0);
+        }
     }
 
     private static void notMeasured(OfSlot asking) {

@@ -39,6 +39,7 @@ public final class TellingEdgesTest {
         Sentences.ofPromise(2, "Twenty bytes come behind the TAPE, four of each number, the highest first: how many it has", TellingEdgesTest::twentyBytes);
         Sentences.ofPromise(2, "NONE, and none come, if it would have more than 1,400", TellingEdgesTest::moreThanTheTape);
         Sentences.ofPromise(3, "The TAPE has its first n bytes alone: n", TellingEdgesTest::firstBytesAlone);
+        Sentences.ofPromise(3, "its first n bytes alone", TellingEdgesTest::cutInTwo);
         Sentences.ofPromise(3, "NONE, and nothing happens, if it has not so many, or n is below 0", TellingEdgesTest::notSoMany);
     }
 
@@ -172,6 +173,29 @@ public final class TellingEdgesTest {
         due("path(0, 0)", x.path(0, 0), 1);
     }
 
+    /** What was cut off is no part of a token, though it would make it longer. */
+    private static void cutInTwo() {
+        DowrySteps x = new DowrySteps();
+        Checks.feedText(x, Checks.bytesOf("mountain places 2 years 30;"));
+        x.end(25);
+        due("mountain() of years 3", x.mountain(), -4);
+        due("fault(1), the end's", x.fault(1), 25);
+        Checks.feedText(x, Checks.bytesOf("mountain places 2 years 29;"));
+        x.end(25);
+        Checks.feedText(x, Checks.bytesOf(";"));
+        due("mountain() of years 2;", x.mountain(), 1);
+        due("count(1)", x.count(1), 2);
+        Checks.feedText(x, Checks.bytesOf(TWO + "walker leap 0 at 0;"));
+        x.end(29);
+        due("mountain() of wal", x.mountain(), -4);
+        due("fault(1), the word's", x.fault(1), 26);
+        Checks.feedText(x, Checks.bytesOf(TWO + "rain 0 is 100;"));
+        x.end(38);
+        Checks.feedText(x, Checks.bytesOf("1;path 0 to 1;"));
+        due("mountain() of rain 0 is 101", x.mountain(), -4);
+        due("fault(1), the number's", x.fault(1), 36);
+    }
+
     /** The place of the fault in the first n bytes of the text: a word that is cut in two, or else the end. */
     private static int placeOfCut(int n) {
         int[] from = {0, 9, 18, 26, 33};
@@ -270,6 +294,13 @@ public final class TellingEdgesTest {
         Checks.faultyAt(full.substring(0, 1399), 1, 1399);
         Checks.faultyAt(full.substring(0, 1399) + " ", 1, 1400);
         Checks.faultyAt(full.substring(0, 1399) + ".", 1, 1399);
+        Checks.faultyAt(full.substring(0, 1399) + "0", 1, 1400);
+        Checks.faultyAt(full.substring(0, 1397) + "100", 1, 1400);
+        Checks.faultyAt(full.substring(0, 1397) + "999", 2, 1396);
+        Checks.faultyAt(full.substring(0, 1399) + "z", 1, 1399);
+        Checks.faultyAt(many + "rain 0", 1, 1400);
+        Checks.faultyAt(many + "height", 1, 1400);
+        Checks.faultyAt(many + "rain;;", 1, 1398);
     }
 
     private static void allElseStays() {

@@ -242,6 +242,9 @@ public final class TextEdgesTest {
         Checks.faulty(two + suitor + "court 0 ^2;", 2);
         Checks.faulty(two + suitor + "court 0 ^4294967297;", 2);
         Checks.fine(two + suitor + "court 0 1;");
+        Checks.faulty(two + suitor + "court 0 ^;", 1);
+        Checks.faulty(two + suitor + "court 0 ^court 0 1;", 1);
+        Checks.faulty(two + suitor + "court ^;", 1);
         Checks.faulty(two + times(7, suitor) + "court ^7 1;", 2);
         due("the last of seven", Checks.fine(two + times(7, suitor) + "court 6 1;").count(8), 64);
         DowrySteps x = Checks.fine(two + "suitor skill 0 spite 0 for 0 1;" + suitor + "court 0 0;court 1 1;court 0 1;court 0 0;court 0 1;");
